@@ -521,15 +521,13 @@ public final class TrickHouse {
         int reached = ours ? wonNow : most;
         // A line that brings all there is to be had leaves nothing for the other lines to better.
         int goal = ours ? most : wonNow;
-        boolean first = true;
-        for (int k = Integer.bitCount(cards); k > 0 && (first || reached != goal); k--) {
+        for (int k = Integer.bitCount(cards); k > 0 && reached != goal; k--) {
             int card = lowestCard(cards);
             cards &= cards - 1;
             play.lay(card);
             int made = mostMade(play, side, depth + 1);
             play.lift();
             reached = ours ? Math.max(reached, made) : Math.min(reached, made);
-            first = false;
         }
         return reached;
     }

@@ -173,11 +173,13 @@ public final class PromisesTest {
         String[] texts = {"", "   ", "$", "jump", "Deal 1", "dealx 1", "deal", "deal ", "deal x", "deal 1234567", "deal 0000001",
             "deal 1 1", "deal 1 x", "deal 1;", "deal -1", "deal\t1", " jump", "bid h 4", "bid 4 x", "bid 4 hh", "bid 4 h 5",
             "bid 4", "bid 4 hpass", "play 3 c", "play n 3", "play cc 3", "playc 3", "play c", "pass 1", "pass pass", "double h",
-            "redouble $", "claim", "claim c", "rank", "rule x", "claim 1 2", "dea l 1", "deal pass", "5"};
+            "redouble $", "claim", "claim c", "rank", "rule x", "claim 1 2", "dea l 1", "deal pass", "5",
+            "real 1", "deax 1", "rbnk 1", "pas", "passs", "redoubl", "doubled"};
         int[] places = {0, 3, 0, 0, 0, 0, 4, 5, 5, 5, 5,
             7, 7, 6, 5, 4, 1, 4, 6, 6, 8,
             5, 6, 5, 5, 5, 0, 6, 5, 5, 7,
-            9, 5, 6, 4, 5, 8, 0, 5, 0};
+            9, 5, 6, 4, 5, 8, 0, 5, 0,
+            0, 0, 0, 0, 0, 0, 0};
         due("as many places", texts.length, places.length);
         for (int i = 0; i < texts.length; i++) due("[" + texts[i] + "]", say(x, texts[i]), -100 - places[i]);
         due("a long word", say(x, "aaaaaaaaaaaaaaaaaaaaaaaaaaaaaaaaaaaaaaaa"), -100);
@@ -220,10 +222,12 @@ public final class PromisesTest {
         due("doubled when redoubled", say(x, "double"), STATE);
         sayAll(x, "bid 4 s", "pass");
         due("own side's bid", say(x, "double"), STATE);
+        due("own side's bid that is not doubled", say(x, "redouble"), STATE);
         sayAll(x, "bid 4 n", "bid 5 c");
         due("a lower number", say(x, "bid 4 n"), UNFAIR);
         sayAll(x, "double", "pass");
-        due("the doubler's partner may not redouble", say(x, "double"), STATE);
+        due("the doubler's partner may not redouble", say(x, "redouble"), STATE);
+        due("nor double", say(x, "double"), STATE);
         sayAll(x, "pass", "redouble", "pass", "pass");
         due("still bidding", x.told(0), 1);
         sayAll(x, "pass");
@@ -327,7 +331,8 @@ public final class PromisesTest {
         standing(x, 1, 0, 0, -1, -1, -1, 0);
         due("deal undone", x.undo(), 2);
         standing(x, 0, -1, 0);
-        due("no hands", x.hand(0, 1), 0);
+        due("no hands", x.hand(0, 0) | x.hand(3, 0), 0);
+        due("nor first ones", x.hand(0, 1) | x.hand(3, 1), 0);
         due("rule undone", x.undo(), 1);
         due("rule", x.told(11), 0);
         due("rank", x.told(10), 2);
@@ -436,6 +441,11 @@ public final class PromisesTest {
         standing(y, 0, -1, 2, -1, -1, -1, 0, 0, 0, 0, 0, 2, 4, 8);
         sayAll(y, "deal 1", "pass", "pass", "pass", "pass", "deal 1", "pass", "pass", "pass", "pass");
         due("0 deals after 3", y.told(2), 0);
+        TrickHouse doubled = with("rule 2", "deal 42", "bid 4 h", "double", "pass", "pass", "pass");
+        playOn(doubled, 0, 32);
+        standing(doubled, 0, -1, 1, 0, 2, 4, 1);
+        sayAll(doubled, "deal 3");
+        standing(doubled, 1, 1, 1, -1, -1, -1, 0);
         TrickHouse other = with("deal 1", "bid 4 c", "bid 4 d", "pass", "bid 5 c", "pass", "pass", "pass");
         due("the other side's naming of c does not count", other.told(3), 3);
     }
@@ -525,6 +535,9 @@ public final class PromisesTest {
         due("card 32", x.strength(32, 0), BAD);
         due("trump 5", x.strength(0, 5), BAD);
         due("the last card, trump n", x.strength(31, 4), 7);
+        due("the first card, trump c", x.strength(0, 0), 0);
+        due("the jack of c, trump c", x.strength(4, 0), 7);
+        due("the jack of c, trump d", x.strength(4, 1), 4);
     }
 
     private static void promise11() {
@@ -578,6 +591,11 @@ public final class PromisesTest {
         due("side 1's", x.score(5), made >= 4 ? 40 + 2 * (made - 4) : 10 * (made - 4));
         due("side 1's total", x.total(1, 5), x.score(5));
         due("side 0's total stays", x.total(0, 0), -60);
+        TrickHouse even = with("deal 42", "bid 4 n", "pass", "pass", "pass");
+        playLowest(even, 0);
+        int got = even.told(8);
+        due("EVEN without a trump", even.score(5), (got >= 4 ? 40 + 2 * (got - 4) : 10 * (got - 4)) + 5);
+        due("summed so", even.total(0, 5), even.score(5));
         TrickHouse claimed = played(20);
         say(claimed, "claim 1");
         due("a claim's tricks are made", claimed.score(0), -10);
@@ -652,6 +670,21 @@ public final class PromisesTest {
         due("ended, best", y.best(1), STATE);
         TrickHouse most = with("rule 2", "deal 17", "bid 4 h", "pass", "pass", "pass");
         playLowest(most, 3);
+        // c 0 is PLAYER 1's still, and led by none: its bit is the lowest there is.
+        TrickHouse low = with("deal 42", "bid 4 h", "pass", "pass", "pass");
+        for (String card : new String[] {"d 7", "d 3", "d 0", "d 1", "h 3", "h 0", "h 4", "h 1", "h 5", "h 6", "c 4", "h 2",
+            "h 7", "c 5", "d 6", "d 2", "d 4", "s 0", "s 1", "s 3"}) sayAll(low, "play " + card);
+        due("player 0 leads", low.told(1), 0);
+        due("of c 1, d 5, s 2", low.hand(0, 2), bits(1, 13, 26));
+        due("open", low.open(), 1);
+        due("the best is d 5", low.best(0), 13);
+        due("worse ones", low.best(1), 2);
+        sayAll(low, "play d 5");
+        due("with c 0", low.hand(1, 2), bits(0, 6, 29));
+        due("gains of c 0", low.gains(0), 2);
+        due("gains of c 6", low.gains(6), 2);
+        due("best of player 1", low.best(0), 0);
+        due("open of player 1", low.open(), 2);
         due("all three", most.open(), 3);
         due("by s 0", most.best(0), 24);
         due("two are worse", most.best(1), 2);
@@ -693,9 +726,17 @@ public final class PromisesTest {
         }
         due("in thought only", z.told(7), 0);
         due("hands stay", z.hand(1, 0), z.hand(1, 1));
-        TrickHouse same = with("deal 42", "bid 4 h", "pass", "pass", "pass");
-        TrickHouse drawn = with("deal 42", "bid 4 h", "pass", "pass", "pass");
-        int seed = 77;
+        for (int seed = -4; seed < 8; seed++) trulyDrawn(seed, "bid 4 h", 0);
+        for (int seed = 90; seed < 98; seed++) trulyDrawn(seed, "pass", 1);
+    }
+
+    private static void trulyDrawn(int first, String opening, int side) {
+        String[] texts = side == 0 ? new String[] {"rule 1", "deal 42", opening, "pass", "pass", "pass"}
+            : new String[] {"rule 1", "deal 42", opening, "bid 4 s", "pass", "pass", "pass"};
+        TrickHouse same = with(texts);
+        TrickHouse drawn = with(texts);
+        due("declarer's side", drawn.told(3), side);
+        int seed = first;
         for (int k = 0; k < 32; k++) {
             seed = seed * 1103515245 + 12345;
             int may = drawn.hand(drawn.told(1), 2);
@@ -703,8 +744,8 @@ public final class PromisesTest {
             while (at-- > 0) may &= may - 1;
             playLowestOf(drawn, may);
         }
-        due("as if truly played", same.drawn(77), drawn.told(8));
-        due("ended", drawn.drawn(77), STATE);
+        due("as if truly played", same.drawn(first), drawn.told(8 + side));
+        due("ended", drawn.drawn(first), STATE);
     }
 
     private static void promise20() {
@@ -735,6 +776,10 @@ public final class PromisesTest {
             due("total " + what, y.replay(38, what), what % 2 == 0 ? y.total(0, (what - 20) / 2) : 0);
         }
         due("EVEN of side 0", y.replay(38, 30), 40);
+        TrickHouse sharp = with("rule 2", "deal 42", "bid 7 h", "pass", "pass", "pass");
+        playOn(sharp, 0, 32);
+        int[] totals = {-30, 0, -30, 0, -60, 0, -30, 0, -60, 0, -30, 0};
+        for (int k = 0; k < 12; k++) due("total by house " + k / 2, sharp.replay(38, 20 + k), totals[k]);
         for (int what = 0; what < 14; what++) due("all of it " + what, y.replay(39, what), y.told(what));
         due("in thought only", y.told(10), 3);
         due("and the log stays", y.undo(), 38);
@@ -774,6 +819,11 @@ public final class PromisesTest {
         due("there is none", x.tells(2, 0), 5);
         due("so no trump", x.tells(2, 1), 0);
         due("no ranking", x.tells(2, 2), 0);
+        x.cell(1, 0, 1);
+        due("the very first is otherwise", x.tells(1, 0), 0);
+        due("no trump", x.tells(1, 1), 0);
+        due("no ranking", x.tells(1, 2), 0);
+        x.cell(1, 0, 3);
         x.cell(1, 2, 2);
         due("the first that is otherwise", x.tells(1, 0), 2);
         due("no trump", x.tells(1, 1), 0);
@@ -854,6 +904,15 @@ public final class PromisesTest {
         due("back once more", y.back(), 26);
         playOn(y, 20, 22);
         due("a new image", y.image(), 28);
+        for (int k = 0; k < 28; k++) y.undo();
+        sayAll(y, "deal 7", "bid 5 n", "double", "pass", "pass", "pass");
+        playLowest(y, 7);
+        due("laid back over other acts", y.back(), 28);
+        int[][] acts = {{8, 2, -1, -1}, {0, 42, -1, -1}, {1, 4, 2, 0}, {2, -1, -1, 1}, {2, -1, -1, 2}, {2, -1, -1, 3},
+            {5, 0, 0, 1}};
+        for (int i = 0; i < acts.length; i++) {
+            for (int what = 0; what < 4; what++) due("log of it " + i + " " + what, y.log(i, what), acts[i][what]);
+        }
         playOn(y, 22, 24);
         due("is the one that counts", y.back(), 28);
         due("its turn", y.told(1), 2);
