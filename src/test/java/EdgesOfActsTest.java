@@ -422,7 +422,8 @@ public final class EdgesOfActsTest extends Edges {
             due("byte " + (int) c + " behind", fresh().say("deal 1" + c), FAULT - 6);
         }
         String[] words = {"jump", "dea", "deals", "bi", "bids", "pas", "doubl", "doubles", "redoubl", "redoubles", "pla", "plays",
-            "clai", "claims", "ran", "ranks", "rul", "rules", "a", "d", "suit", "rebid", "xdouble"};
+            "clai", "claims", "ran", "ranks", "rul", "rules", "a", "d", "suit", "rebid", "xdouble",
+            "seal", "lid", "bass", "trouble", "debouble", "slay", "blaim", "bank", "mule", "dial", "bed", "puss", "plow", "risk"};
         for (String word : words) {
             due(word, fresh().say(word + " 1"), FAULT);
             due(word + " behind a blank", fresh().say(" " + word + " 1"), FAULT - 1);

@@ -311,6 +311,18 @@ public final class EdgesOfDealsTest extends Edges {
         // TEN, seed 4755: h 7 is above h 3, h 6 is not.
         String[] ten = {"rank 2", "rule 2", "deal 4755", "bid 4 h", "pass", "pass", "pass"};
         due("above h 3, TEN", after(ten).get().plays("s0 h3").hand(3, 2), bits("h7"));
+        ruleStrongestOf("c", "deal 1980", "h1 c6", "c7");
+        ruleStrongestOf("c", "deal 2857", "s0 c1", "c5");
+        ruleStrongestOf("d", "deal 2857", "s0 d6", "d7");
+        ruleStrongestOf("d", "deal 2857", "s0 d4", "d5 d7");
+        ruleStrongestOf("s", "deal 20722", "d0 s6", "s7");
+        ruleStrongestOf("s", "deal 20722", "d0 s1", "s2 s7");
+    }
+
+    // Of each TRUMP PLAYER 3 has the least CARD of it too, which is never stronger.
+    private static void ruleStrongestOf(String trump, String deal, String lying, String may) {
+        House x = after("rule 2", deal, "bid 4 " + trump, "pass", "pass", "pass").get().plays(lying);
+        due("above " + lying + ", TRUMP " + trump, x.hand(3, 2), bits(may));
     }
 
     // ---- the DEAL

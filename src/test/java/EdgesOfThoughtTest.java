@@ -132,6 +132,8 @@ public final class EdgesOfThoughtTest extends Edges {
         gaining(two(), "s2 s6 s7", 1, 2, 2);
         gaining(three(), "d3 d5 d7", 1, 1, 3);
         gaining(playing(20), "d5 h1 s2", 2, 1, 2);
+        gaining(firstAndLast(), "c0 s2 s7", 1, 2, 3);
+        gaining(between(), "c0 s4 s7", 0, 2, 1);
         gaining(led(), "c6 s0 s5", 1, 1, 1);
         gaining(playing(22), "h2", 2);
         gaining(playing(23), "s3 s4 s7", 1, 1, 0);
@@ -154,6 +156,20 @@ public final class EdgesOfThoughtTest extends Edges {
         due("the last alone", three().best(0), card("d7"));
         due("the only one", playing(22).best(0), card("h2"));
         due("of three SUITS", playing(20).best(0), card("d5"));
+        due("the greatest CARD of all", firstAndLast().best(0), card("s7"));
+        due("between the least and the greatest of all", between().best(0), card("s4"));
+    }
+
+    // c 0, s 2 and s 7 may be played.
+    private static House firstAndLast() {
+        return new House().does("rule 2", "deal 119", "bid 4 d", "pass", "pass", "pass")
+            .plays("c1 c7 c4 d2 h4 h6 d3 h2 c6 c2 d1 c5 d4 d7 d6 d5 h1 d0 h3 h7");
+    }
+
+    // c 0, s 4 and s 7 may be played.
+    private static House between() {
+        return new House().does("rule 2", "deal 121", "bid 4 c", "pass", "pass", "pass")
+            .plays("d6 d2 c4 d7 c6 c3 c5 c7 h2 h6 h0 h4 h5 h1 s1 h7 d5 c1 d0 d1");
     }
 
     private static void drawnTerm() {
@@ -296,6 +312,8 @@ public final class EdgesOfThoughtTest extends Edges {
         bestAndLess(playing(28), "s7", 0);
         bestAndLess(playing(31), "s6", 0);
         bestAndLess(c0(), "c0", 0);
+        bestAndLess(firstAndLast(), "s7", 2);
+        bestAndLess(between(), "s4", 2);
         House x = three();
         x.best(0);
         unchanged("best(0)", x, three());
