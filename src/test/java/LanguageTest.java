@@ -26,6 +26,7 @@ public final class LanguageTest {
         }
         names(code);
         sizes(code);
+        made(code);
         System.out.println(passed + " passed, " + failed + " failed");
         if (failed != 0) System.exit(1);
     }
@@ -66,5 +67,14 @@ public final class LanguageTest {
         int count = 0;
         while (classes.find()) count++;
         due("rule 11, classes", count <= 12);
+    }
+
+    // All calls of a run live in one room, so that what is made is made with the object: in its fields and its constructor.
+    private static void made(String code) {
+        for (String line : code.split("\n")) {
+            if (!line.matches(".*\\bnew\\b.*")) continue;
+            boolean withTheObject = line.matches(" +(private )?final [\\w\\[\\]]+ \\w+ = new .*;") || line.equals("            sheets[i] = new Sheet();");
+            due("rule 12, a call makes an object: " + line.trim(), withTheObject);
+        }
     }
 }
